@@ -764,11 +764,14 @@ public final class BeachIsRelaid {
         }
 
         int wrongBeside(int c) {
+            if (c < 0 || c >= CELLS) {
+                return 0;
+            }
             int column = c % SIDE;
-            int many = isWrong(c - SIDE) ? 1 : 0;
-            many += isWrong(c + SIDE) ? 1 : 0;
-            many += column > 0 && isWrong(c - 1) ? 1 : 0;
-            many += column < SIDE - 1 && isWrong(c + 1) ? 1 : 0;
+            int many = c >= SIDE && marks[c - SIDE] != plans[c - SIDE] ? 1 : 0;
+            many += c < CELLS - SIDE && marks[c + SIDE] != plans[c + SIDE] ? 1 : 0;
+            many += column > 0 && marks[c - 1] != plans[c - 1] ? 1 : 0;
+            many += column < SIDE - 1 && marks[c + 1] != plans[c + 1] ? 1 : 0;
             return many;
         }
 
@@ -843,9 +846,14 @@ public final class BeachIsRelaid {
             open = 0;
             length = 0;
             fault = NONE;
-            readPart(TAKES, PART_TAKES);
-            readPart(LAYS, PART_LAYS);
-            readPart(LEAVES, PART_LEAVES);
+            for (int part = 0; part < PARTS; part++) {
+                expect(part == PART_TAKES ? TAKES : part == PART_LAYS ? LAYS : LEAVES);
+                if (fault == NONE) {
+                    chain(0);
+                }
+                expect(SEMICOLON);
+                ends[part] = length;
+            }
             expect(END);
         }
 
@@ -932,11 +940,6 @@ public final class BeachIsRelaid {
         }
 
         private int wordOf(int from, int till) {
-            int name = nameOf(from, till);
-            return name != BROKEN ? name : keyOf(from, till);
-        }
-
-        private int nameOf(int from, int till) {
             if (spells(from, till, "mark")) {
                 return MARK;
             }
@@ -952,10 +955,9 @@ public final class BeachIsRelaid {
             if (spells(from, till, "number")) {
                 return NUMBER;
             }
-            return spells(from, till, "beside") ? BESIDE : BROKEN;
-        }
-
-        private int keyOf(int from, int till) {
+            if (spells(from, till, "beside")) {
+                return BESIDE;
+            }
             if (spells(from, till, "takes")) {
                 return TAKES;
             }
@@ -1022,17 +1024,6 @@ public final class BeachIsRelaid {
             open++;
             next++;
             return true;
-        }
-
-        private void readPart(int key, int part) {
-            expect(key);
-            if (fault == NONE) {
-                chain(0);
-            }
-            expect(SEMICOLON);
-            if (part >= 0 && part < PARTS) {
-                ends[part] = length;
-            }
         }
 
         // The levels of an E: 0 or, 1 and, 2 not < =, 3 + -, 4 *, 5 a ONE.
@@ -1132,20 +1123,20 @@ public final class BeachIsRelaid {
         int takesOf(Beach beach, One who, int c) {
             int plan = beach.planOf(c);
             say(beach, c, plan, who.number);
-            int v = bound(worth(textAt(beach.rule), PART_TAKES), 0, MOST_TAKES);
+            int v = bound(worth(beach.rule, PART_TAKES), 0, MOST_TAKES);
             return bound(who.takesBy(v, plan), 1, MOST_TAKES);
         }
 
         int laysOf(Beach beach, One who, int c) {
             int plan = beach.planOf(c);
             say(beach, c, plan, who.number);
-            int v = bound(worth(textAt(beach.rule), PART_LAYS), 0, MOST_MARK);
+            int v = bound(worth(beach.rule, PART_LAYS), 0, MOST_MARK);
             return bound(who.laysBy(v, plan, c), 0, MOST_MARK);
         }
 
         int leftOf(Beach beach, int c) {
             say(beach, c, isCell(c) ? beach.marks[c] : 0, 0);
-            return bound(worth(textAt(beach.rule), PART_LEAVES), 0, MOST_MARK);
+            return bound(worth(beach.rule, PART_LEAVES), 0, MOST_MARK);
         }
 
         int minutesOf(Beach beach, One who, int c) {
@@ -1156,7 +1147,7 @@ public final class BeachIsRelaid {
             if (!isCell(c)) {
                 return 0;
             }
-            int minutes = minutesOf(beach, who, c);
+            int minutes = apart(who.at, c) + takesOf(beach, who, c);
             beach.marks[c] = laysOf(beach, who, c);
             who.at = c;
             who.laid = Math.min(who.laid + 1, MOST_LAID);
@@ -1185,21 +1176,16 @@ public final class BeachIsRelaid {
         }
 
         private void say(Beach beach, int c, int mark, int number) {
-            put(MARK, mark);
-            put(ROW, c / SIDE);
-            put(COLUMN, c % SIDE);
-            put(TIDE, beach.tide);
-            put(NUMBER, number);
-            put(BESIDE, beach.wrongBeside(c));
+            said[MARK - MARK] = mark;
+            said[MARK - ROW] = c / SIDE;
+            said[MARK - COLUMN] = c % SIDE;
+            said[MARK - TIDE] = beach.tide;
+            said[MARK - NUMBER] = number;
+            said[MARK - BESIDE] = beach.wrongBeside(c);
         }
 
-        private void put(int name, int v) {
-            if (name >= BESIDE && name <= MARK) {
-                said[MARK - name] = v;
-            }
-        }
-
-        private int worth(Text text, int part) {
+        private int worth(int rule, int part) {
+            Text text = textAt(rule);
             if (text == null || part < 0 || part >= PARTS) {
                 return 0;
             }
@@ -1207,29 +1193,23 @@ public final class BeachIsRelaid {
             int top = 0;
             for (int i = Math.max(first, 0); i < text.ends[part] && i < text.code.length; i++) {
                 int what = text.code[i];
-                if (what < BESIDE) {
-                    top = join(what, top);
-                } else if (top >= 0 && top < TAPE) {
-                    stack[top] = what < 0 ? said[MARK - what] : what;
-                    top++;
+                if (what >= BESIDE) {
+                    if (top >= 0 && top < TAPE) {
+                        stack[top] = what < 0 ? said[MARK - what] : what;
+                        top++;
+                    }
+                    continue;
+                }
+                int height = what == NOT || what == NEGATE ? top : top - 1;
+                if (height >= 1 && height < TAPE) {
+                    stack[height - 1] = joined(what, stack[height - 1], stack[height]);
+                    top = height;
                 }
             }
             return stack[0];
         }
 
-        // How high the stack is behind it.
-        private int join(int sign, int top) {
-            boolean isAlone = sign == NOT || sign == NEGATE;
-            int height = isAlone ? top : top - 1;
-            if (height < 1 || height >= TAPE) {
-                return top;
-            }
-            int a = stack[height - 1];
-            int b = isAlone ? 0 : stack[height];
-            stack[height - 1] = joined(sign, a, b);
-            return height;
-        }
-
+        // Of not and of a sign ahead of a ONE, b does not matter.
         private static int joined(int sign, int a, int b) {
             switch (sign) {
                 case OR: return a != 0 || b != 0 ? 1 : 0;
