@@ -486,7 +486,7 @@ public final class BeachIsRelaid {
     }
 
     public long chance(int seed, int m, int k, int part) {
-        if (m < 1 || m > MOST_SEEDS || k < 0 || k > CELLS || part < 0 || part > 1) {
+        if (m < 1 || m > MOST_SEEDS || k < 0 || k > CELLS) {
             return NO;
         }
         int many = 0;

@@ -145,6 +145,8 @@ public final class PromisesTest {
         due("set(3, 0, 9)", x.set(3, 0, 9), 3);
         due("set(3, 0, 10)", x.set(3, 0, 10), BAD);
         due("set(4, 1, 0)", x.set(4, 1, 0), 35);
+        due("set(4, 1, 35)", x.set(4, 1, 35), 0);
+        due("set(4, 1, 0) again", x.set(4, 1, 0), 35);
         due("set(4, 1, 36)", x.set(4, 1, 36), BAD);
         due("set(4, 1, -1)", x.set(4, 1, -1), BAD);
         due("set(4, 2, 0)", x.set(4, 2, 0), BAD);
@@ -288,6 +290,11 @@ public final class PromisesTest {
         due("a text of no tokens", x.text(), -100);
         due("bytes behind a fault", x.count(4), 0);
         due("feed anew", x.feed(116), 1);
+        x.text();
+        for (int i = 1; i <= 160; i++) {
+            due("feed of sign " + i, x.feed(';'), i);
+        }
+        due("a text of 160 tokens", x.text(), -100);
     }
 
     // Promise 7
@@ -611,6 +618,8 @@ public final class PromisesTest {
         due("run(0, 1000, 0)", x.run(0, 1000, 0), BAD);
         due("run(0, 0, -1)", x.run(0, 0, -1), BAD);
         due("run(0, 0, 4)", x.run(0, 0, 4), BAD);
+        due("run(0, 0, 0)", x.run(0, 0, 0), 0);
+        due("run(0, 999, 0)", x.run(0, 999, 0), 9);
         due("run(0, 8, 0)", x.run(0, 8, 0), 6);
         due("run(0, 8, 1)", x.run(0, 8, 1), 2);
         due("run(0, 8, 2)", x.run(0, 8, 2), 2);
@@ -698,10 +707,25 @@ public final class PromisesTest {
         BeachIsRelaid y = by("takes 1 ; lays 1 ; leaves tide ;");
         plans(y, 3, 30, 31);
         y.set(0, 0, 3);
+        plans(y, 3, 0);
+        y.set(1, 0, 3);
+        due("then by reach 0", y.drawn(seedOf(0)), 2);
         due("worst by the tide that is", y.shore(3), 6);
-        due("then", y.shore(4), 34);
+        due("then", y.shore(4), 33);
         y.set(0, 0, 0);
+        due("by tide 0 reach 6 is worst by one", y.shore(3), 6);
+        due("by one cell", y.shore(4), 3);
+        plans(y, 0, 0);
+        y.set(1, 0, 0);
         due("like ones: the least", y.shore(3), 0);
+    }
+
+    private static int seedOf(int reach) {
+        int seed = 0;
+        while ((seed * 1103515245 + 12345 >>> 9) % 7 != reach) {
+            seed++;
+        }
+        return seed;
     }
 
     // Promise 15
@@ -844,6 +868,11 @@ public final class PromisesTest {
     private static void share() {
         BeachIsRelaid x = new BeachIsRelaid();
         due("none is wrong", x.share(0, 0), NO);
+        plans(x, 1, 9);
+        due("one is wrong, above", x.share(1, 0), 1);
+        due("one is wrong, below", x.share(1, 1), 1);
+        due("not in row 0", x.share(0, 0), 0);
+        plans(x, 0, 9);
         plans(x, 1, 0, 1, 2, 7, 35, 34);
         due("row 0 above", x.share(0, 0), 1);
         due("row 0 below", x.share(0, 1), 2);
@@ -926,6 +955,11 @@ public final class PromisesTest {
         due("tides 99", x.tells(0, 0, 3), 1);
         row(x, 0, 2, 0, 0);
         due("tides 0 to 90", x.tells(0, 0, 3), 91);
+        read(x, "takes 1 ; lays 99 < tide ; leaves 0 ;");
+        x.force(4);
+        row(x, 0, 2, 1, 1);
+        due("tides 100 and more are not told", x.tells(0, 0, 3), 0);
+        due("no least tide", x.tells(0, 0, 4), NONE);
         x.force(2);
         x.set(2, 6, 1);
         row(x, 0, 0, 6, 5);
