@@ -708,7 +708,9 @@ public final class BeachIsRelaid {
             System.arraycopy(other.marks, 0, marks, 0, CELLS);
             System.arraycopy(other.plans, 0, plans, 0, CELLS);
             for (int i = 0; i < CREW; i++) {
-                crew[i].become(other.crew[i]);
+                if (crew[i] != null && other.crew[i] != null) {
+                    crew[i].become(other.crew[i]);
+                }
             }
             size = other.size;
             tide = other.tide;
@@ -720,7 +722,7 @@ public final class BeachIsRelaid {
         }
 
         int join(int kind, int number, int on) {
-            if (size < 0 || size >= CREW) {
+            if (size < 0 || size >= CREW || crew[size] == null) {
                 return FULL;
             }
             One who = crew[size];
