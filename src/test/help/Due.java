@@ -74,6 +74,16 @@ final class Due {
         }
     }
 
+    /** Of each promise, 1 to the last, there is a sentence, which begins with its number. */
+    static void allOf(int last) {
+        for (int i = 1; i <= last; i++) {
+            String begin = i + ":";
+            if (sentences.stream().noneMatch(s -> s.startsWith(begin))) {
+                fault("no sentence of promise " + i);
+            }
+        }
+    }
+
     /** To be called last: says how it went, and ends with 1 if anything was not as due. */
     static void end() {
         noneIsEmpty();

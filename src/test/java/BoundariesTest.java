@@ -47,6 +47,7 @@ public final class BoundariesTest {
         crew();
         crewOutside();
         taken();
+        Due.allOf(31);
         Due.end();
     }
 
@@ -103,6 +104,10 @@ public final class BoundariesTest {
             Due.due(x, 5, "set", 3, one, one * 3);
             Due.due(x, 20, "set", 4, one, 35 - one * 11);
         }
+        Due.sentence("4: TIDE, MARK, PLAN, NUMBER, where one stands, KIND, LAID, as they became");
+        Due.due(x, 1, "told", 0, 0);
+        Due.due(x, 6, "told", 0, 1);
+        Due.due(x, 7, "told", 0, 2);
         for (int one = 0; one < 4; one++) {
             Due.due(x, one * 3, "told", one, 3);
             Due.due(x, 35 - one * 11, "told", one, 4);
@@ -195,6 +200,14 @@ public final class BoundariesTest {
         Due.due(x, FULL, "text");
         Due.due(x, 40, "count", 4);
         Due.due(x, 41, "feed", '?');
+        Due.sentence("7: by a FAULT nothing stays open");
+        BeachIsRelaid z = new BeachIsRelaid();
+        for (int i = 0; i < 3; i++) {
+            Due.due("a fault with five open", Due.read(z, "takes ((((("), -111);
+            Due.due("a fault of a sixth", Due.read(z, "takes not -((((1"), -114);
+        }
+        Due.due("five open", Due.read(z, "takes (((((1))))) ; lays -----1 ; leaves not not not not not 1 ;"), 1);
+        Due.due("five open again", Due.read(z, "takes not(not(-1));lays 1;leaves 1;"), 2);
         Due.sentence("7: FULL with an empty TAPE");
         BeachIsRelaid y = new BeachIsRelaid();
         for (int i = 1; i <= 5; i++) {
@@ -594,6 +607,13 @@ public final class BoundariesTest {
         BeachIsRelaid x = clerkAt(14);
         Due.due(x, 0, "soonest", 0, 0);
         Due.due(x, NONE, "soonest", 0, 1);
+        Due.sentence("16: none is WRONG again, behind some that were");
+        Due.plans(x, 1, 7, 8, 9);
+        Due.due(x, 2 + 2 + 9, "soonest", 0, 0);
+        Due.due(x, 7, "soonest", 0, 1);
+        Due.plans(x, 0, 7, 8, 9);
+        Due.due(x, 0, "soonest", 0, 0);
+        Due.due(x, NONE, "soonest", 0, 1);
         Due.sentence("16: one is WRONG");
         x.set(2, 0, 9);
         Due.due(x, 4 + 11, "soonest", 0, 0);
@@ -729,6 +749,21 @@ public final class BoundariesTest {
         goals(x, 35, NONE);
         x.set(4, 0, 6);
         goals(x, NONE, 35);
+        Due.sentence("17: one who is far goes, too, if CELLS are left");
+        BeachIsRelaid z = new BeachIsRelaid();
+        z.staff(0, 0, 0);
+        z.staff(0, 0, 35);
+        z.staff(0, 0, 34);
+        Due.plans(z, 1, 1, 2);
+        Due.due(z, 1 + 3 + 7 + 3, "together", 0);
+        goals(z, 1, NONE, 2);
+        z.set(2, 3, 1);
+        Due.due(z, 1 + 3 + 7 + 3 + 7 + 3, "together", 0);
+        goals(z, 1, 2, 3);
+        Due.sentence("17: none is WRONG again, behind some that were");
+        Due.plans(z, 0, 1, 2, 3);
+        Due.due(z, 0, "together", 0);
+        goals(z, NONE, NONE, NONE);
         Due.sentence("17: of all ways that of fewest minutes, not each one's nearest");
         BeachIsRelaid y = new BeachIsRelaid();
         y.staff(0, 0, 2);
@@ -791,6 +826,12 @@ public final class BoundariesTest {
             Due.due(x, NO, "share", row, 0);
             Due.due(x, NO, "share", row, 1);
         }
+        Due.sentence("19: one is WRONG: 1 of 1 of its ROW, 0 of 1 of others");
+        x.set(2, 6, 1);
+        for (int row = 0; row < 6; row++) {
+            shares(x, row, row == 1 ? 1 : 0, 1);
+        }
+        x.set(2, 6, 0);
         Due.sentence("19: none of a ROW: 0 of 1; all: 1 of 1");
         Due.plans(x, 1, 30, 35);
         shares(x, 5, 1, 1);
@@ -973,6 +1014,17 @@ public final class BoundariesTest {
         Due.due(x, 64, "tells", 0, 0, 6);
         x.set(1, 0, 0);
         Due.due(x, 127, "tells", 0, 0, 6);
+        Due.sentence("20: REACHES: each TIDE is one by itself, of what lies now, at TIDE as it is");
+        BeachIsRelaid y = Due.by("takes 1 ; lays 0 ; leaves mark - 1 + tide * 2 ;");
+        y.staff(0, 0, 0);
+        Due.marks(y, 5, Due.cells(0, 36));
+        for (int reach = 0; reach <= 6; reach++) {
+            y.sheet(0, 0, 36);
+            for (int c = 0; c < 36; c++) {
+                y.cell(0, c, c < 36 - 6 * reach ? 5 : 4);
+            }
+            Due.due(y, 1 << reach, "tells", 0, 0, 6);
+        }
         Due.sentence("20: REACHES: it is in thought, at TIDE 999, too");
         x.set(0, 0, 999);
         Due.due(x, 127, "tells", 0, 0, 6);
@@ -996,16 +1048,32 @@ public final class BoundariesTest {
             x.set(2, 35, 0);
             Due.due(x, n == 36 ? 35 : NONE, "tells", 1, 0, 0);
         }
-        Due.sentence("21: a SHEET that is missing becomes bytes, too; what one LAYS, whatever lies there");
+        Due.sentence("21: a SHEET of 0, 36, 37, 40 numbers, of each sort, or missing: it becomes n bytes");
+        for (int size : new int[] {0, 36, 37, 40}) {
+            for (int sort = -1; sort < 3; sort++) {
+                BeachIsRelaid x = clerkAt(0);
+                x.sheet(2, sort, size);
+                Due.due(x, 2, "film", 2, 0, 2);
+                Due.due(x, 1, "cell", 2, 1, 256);
+                Due.due(x, OUTSIDE, "cell", 2, 2, 0);
+                Due.due(x, NONE, "tells", 2, 0, 0);
+            }
+        }
+        Due.sentence("21: what one LAYS, whatever lies there; truly nothing is laid, one stays");
         BeachIsRelaid y = new BeachIsRelaid();
         y.staff(0, 0, 7);
         y.set(1, 3, 5);
-        y.set(2, 4, 6);
-        Due.due(y, 36, "film", 0, 0, 36);
         for (int c = 0; c < 36; c++) {
-            y.set(2, c, c == 4 ? 6 : 0);
+            y.set(2, c, 9 - c % 10);
         }
+        Due.due(y, 36, "film", 0, 0, 36);
         Due.due(y, NONE, "tells", 0, 0, 0);
+        for (int c = 0; c < 36; c++) {
+            // each item by itself: it is what was planned there, and no more when that changes
+            y.set(2, c, 1 + c % 9);
+            Due.due(y, 9 - c % 10 == 1 + c % 9 ? NONE : c, "tells", 0, 0, 0);
+            y.set(2, c, 9 - c % 10);
+        }
         Due.due(y, 5, "told", 3, 1);
         Due.due(y, 7, "told", 0, 4);
     }
@@ -1019,6 +1087,12 @@ public final class BoundariesTest {
         Due.marks(x, 1, Due.cells(0, 36));
         Due.due(x, 36, "drawn", 1);
         Due.due(x, 0, "drawn", 7);
+        // by these z is 511 or 0 of 512: one more, one less is another reach
+        int[] seeds = {286, 798, 1310, 131, 643, 1155};
+        int[] reaches = {6, 3, 4, 5, 2, 3};
+        for (int i = 0; i < seeds.length; i++) {
+            Due.due(x, 6 * reaches[i], "drawn", seeds[i]);
+        }
         x.set(0, 0, 999);
         Due.due(x, 36, "drawn", 1);
         Due.due(x, 999, "told", 0, 0);
@@ -1099,12 +1173,12 @@ public final class BoundariesTest {
         x.image();
         for (int one = 0; one < 4; one++) {
             x.staff(3, 3, 3);
+            x.relay(one, 9);
         }
         Due.due(x, 0, "back");
         Due.due(x, 0, "count", 0);
         Due.due(x, BAD, "told", 0, 3);
         Due.sentence("25: others come in their places, of their own KIND, none LAID");
-        x.relay(0, 0);
         Due.due(x, 0, "staff", 4, 9, 35);
         Due.due(x, 4, "told", 0, 5);
         Due.due(x, 9, "told", 0, 3);
@@ -1373,6 +1447,16 @@ public final class BoundariesTest {
             x.sheet(0, 1, 40);
             Due.due(x, from <= 28 ? 4 : OUTSIDE, "crew", 0, 1, from, 4);
             Due.due(x, from <= 28 ? 4 : 3, "count", 0);
+        }
+        Due.sentence("30: a SHEET of 36 and of 37 numbers: the last three");
+        for (int size = 36; size <= 37; size++) {
+            BeachIsRelaid x = new BeachIsRelaid();
+            x.sheet(0, 2, size);
+            x.cell(0, size - 1, 35);
+            Due.due(x, OUTSIDE, "crew", 0, 2, size - 2, 1);
+            Due.due(x, 0, "count", 0);
+            Due.due(x, 1, "crew", 0, 2, size - 3, 1);
+            Due.due(x, 35, "told", 0, 4);
         }
         Due.sentence("30: -12: what stood ahead came: none, one, two, three");
         for (int came = 0; came <= 3; came++) {

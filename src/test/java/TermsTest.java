@@ -306,6 +306,11 @@ public final class TermsTest {
         good(" \n\n takes 2\n+ mark ; \nlays\nmark ;\n\n leaves 0 ;\n \n");
         good("takes 1or 2and 3;lays not(1);leaves 1;");
         Due.sentence("1: FAULT: a WORD that is neither KEY nor NAME");
+        for (String word : "takes lays leaves or and not mark row column tide number beside".split(" ")) {
+            for (int i = 0; i < word.length(); i++) {
+                fault("takes " + word.substring(0, i) + "q" + word.substring(i + 1) + " ;", 6);
+            }
+        }
         for (String word : "a z mar marks rows columns tid tides numbe numbers besid take lay leave o ands nots".split(" ")) {
             faultE(word, 0);
             faultE("1 + " + word, 4);
