@@ -1,14 +1,18 @@
 import java.io.IOException;
+import java.io.InputStream;
 import java.lang.reflect.Field;
 import java.lang.reflect.Member;
 import java.lang.reflect.Method;
 import java.lang.reflect.Modifier;
+import java.nio.charset.StandardCharsets;
 import java.nio.file.Files;
 import java.nio.file.Path;
+import java.util.ArrayList;
 import java.util.Arrays;
 import java.util.List;
 import java.util.Set;
 import java.util.TreeSet;
+import java.util.regex.MatchResult;
 import java.util.regex.Matcher;
 import java.util.regex.Pattern;
 import java.util.stream.Collectors;
@@ -30,6 +34,8 @@ public final class FaceTest {
         constants();
         face();
         insideClasses();
+        library();
+        headings();
         source();
         System.out.println(wrong == 0 ? "the face and the source are as due" : wrong + " things are not as due");
         if (wrong != 0) {
@@ -113,6 +119,42 @@ public final class FaceTest {
         }
     }
 
+    /** All that the compiled classes name of Java's own library. */
+    private static void library() throws IOException {
+        Set<String> named = new TreeSet<>();
+        List<Class<?>> all = new ArrayList<>(List.of(BeachIsRelaid.class.getDeclaredClasses()));
+        all.add(BeachIsRelaid.class);
+        for (Class<?> c : all) {
+            try (InputStream code = c.getResourceAsStream(c.getName() + ".class")) {
+                Matcher m = Pattern.compile("javax?/[\\w/$]+").matcher(new String(code.readAllBytes(), StandardCharsets.ISO_8859_1));
+                while (m.find()) {
+                    named.add(m.group());
+                }
+            }
+        }
+        named.removeAll(Set.of("java/lang/Object", "java/lang/String", "java/lang/Integer", "java/lang/Long", "java/lang/Math",
+            "java/lang/System"));
+        due("other classes of the library", named, Set.of());
+    }
+
+    /** What the interface says ahead of its calls, and that they stand there, in their order. */
+    private static void headings() throws IOException {
+        StringBuilder want = new StringBuilder();
+        Matcher m = Pattern.compile("^Ahead of the calls (.*) the interface says: (---- .*)\\.$", Pattern.MULTILINE)
+            .matcher(Files.readString(DOCUMENT));
+        while (m.find()) {
+            want.append(m.group(2)).append(": ").append(m.group(1).replaceAll("[`,]", "")).append('\n');
+        }
+        StringBuilder got = new StringBuilder();
+        m = Pattern.compile("^    (?:// (---- .*)|public (?:int|long) (\\w+)\\(.*)$", Pattern.MULTILINE)
+            .matcher(Files.readString(SOURCE));
+        while (m.find()) {
+            got.append(m.group(1) == null ? " " + m.group(2) : (got.length() == 0 ? "" : "\n") + m.group(1) + ":");
+        }
+        due("six headings", want.toString().lines().count(), 6L);
+        due("the headings and their calls", got.append('\n').toString(), want.toString());
+    }
+
     private static void source() throws IOException {
         String text = Files.readString(SOURCE);
         due("signs 10, 32 to 126 alone", text.chars().allMatch(c -> c == 10 || c >= 32 && c < 127), true);
@@ -126,7 +168,10 @@ public final class FaceTest {
         }
         due("lambdas", code.contains("->"), false);
         due("method references", code.contains("::"), false);
-        due("calls of System", code.replace("System.arraycopy(", "").contains("System."), false);
+        Set<String> calls = Pattern.compile("\\b(Math|Integer|Long|System|String|Object)\\.\\w+").matcher(code).results()
+            .map(MatchResult::group).collect(Collectors.toCollection(TreeSet::new));
+        calls.removeAll(Set.of("Math.min", "Math.max", "Math.abs", "Integer.bitCount", "Long.bitCount", "System.arraycopy"));
+        due("other calls of the library", calls, Set.of());
         due("loops by while", Pattern.compile("\\bwhile\\b").matcher(code).find(), false);
         int lines = 0;
         for (String line : text.split("\n")) {
